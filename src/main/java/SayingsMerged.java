@@ -41,10 +41,15 @@ public final class SayingsMerged {
     };
     private static final long ALL_WORLDS = -1L;
 
+    /** TOKENS that are no single byte. */
+    private static final int LAW = 256, SAY = 257, END = 258, NO_TOKEN = 259;
+    private static final int NO_FAULT = -1;
+
     /** In how many orders 0 .. 7 can come. */
     private static final int[] ORDERS = {1, 1, 2, 6, 24, 120, 720, 5040};
 
     private final Text text;
+    private final Reader reader;
     private Told told;
     /** Where a text is read to, so that a fault leaves what was told as it is. */
     private Told spare;
@@ -60,6 +65,7 @@ public final class SayingsMerged {
 
     public SayingsMerged() {
         text = new Text();
+        reader = new Reader(text);
         told = new Told();
         spare = new Told();
         asked = ALL_WORLDS;
@@ -94,9 +100,9 @@ public final class SayingsMerged {
     }
 
     public int tell() {
-        text.readItems(spare);
-        if (text.isFaulty()) {
-            return FAULT_BASE - text.fault;
+        reader.readItems(spare);
+        if (reader.isFaulty()) {
+            return FAULT_BASE - reader.fault;
         }
         Told old = told;
         told = spare;
@@ -108,9 +114,9 @@ public final class SayingsMerged {
     }
 
     public int question() {
-        long read = text.readQuestion();
-        if (text.isFaulty()) {
-            return FAULT_BASE - text.fault;
+        long read = reader.readQuestion();
+        if (reader.isFaulty()) {
+            return FAULT_BASE - reader.fault;
         }
         asked = read;
         text.length = 0;
@@ -315,6 +321,10 @@ public final class SayingsMerged {
 
     private static boolean isWay(int way) {
         return way >= BY_SUM && way <= BY_ROW;
+    }
+
+    private static boolean isLetter(int token) {
+        return token >= 'a' && token < 'a' + LETTERS;
     }
 
     // ---- far and nearest
@@ -653,26 +663,19 @@ public final class SayingsMerged {
         }
     }
 
-    /** THE TEXT, and what reads it TOKEN by TOKEN up to the first fault. */
+    /** THE TEXT: its bytes, and the TOKENS found in them. */
     private static final class Text {
-        /** A TOKEN of one byte is that byte; these stand beyond all bytes. */
-        private static final int LAW = 256, SAY = 257, END = 258, NO_TOKEN = 259;
-        private static final int NO_FAULT = -1;
-
         private final int[] bytes;
         private int length;
-        private int next;
-        private int token;
-        private int place;
-        private int fault;
+        /** A TOKEN of one byte is that byte; LAW, SAY, END and NO_TOKEN stand beyond all bytes. */
+        private final int[] tokens;
+        private final int[] places;
 
         Text() {
             bytes = new int[MAX_BYTES];
             length = 0;
-            next = 0;
-            token = END;
-            place = 0;
-            fault = NO_FAULT;
+            tokens = new int[MAX_BYTES + 1];
+            places = new int[MAX_BYTES + 1];
         }
 
         void append(int b) {
@@ -680,6 +683,74 @@ public final class SayingsMerged {
                 bytes[length] = b;
                 length++;
             }
+        }
+
+        void findTokens() {
+            int found = 0;
+            for (int at = 0; at < length; at++) {
+                if (beginsToken(at)) {
+                    tokens[found] = tokenAt(at);
+                    places[found] = at;
+                    found++;
+                }
+            }
+            tokens[found] = END;
+            places[found] = length;
+        }
+
+        private boolean beginsToken(int at) {
+            if (!isSmall(at)) {
+                return bytes[at] != ' ';
+            }
+            return !isSmall(at - 1);
+        }
+
+        private int tokenAt(int at) {
+            if (isSmall(at)) {
+                return wordAt(at);
+            }
+            return isSign(bytes[at]) ? bytes[at] : NO_TOKEN;
+        }
+
+        private int wordAt(int at) {
+            int size = 1;
+            while (at + size < length && isSmall(at + size)) {
+                size++;
+            }
+            if (size == 1) {
+                return isLetter(bytes[at]) ? bytes[at] : NO_TOKEN;
+            }
+            if (size != 3 || bytes[at + 1] != 'a') {
+                return NO_TOKEN;
+            }
+            if (bytes[at] == 'l' && bytes[at + 2] == 'w') {
+                return LAW;
+            }
+            return bytes[at] == 's' && bytes[at + 2] == 'y' ? SAY : NO_TOKEN;
+        }
+
+        private boolean isSmall(int at) {
+            return at >= 0 && at < length && bytes[at] >= 'a' && bytes[at] <= 'z';
+        }
+
+        private static boolean isSign(int b) {
+            return (b >= '0' && b <= '9')
+                || b == ';' || b == '|' || b == '&' || b == '!' || b == '(' || b == ')';
+        }
+    }
+
+    /** Reads the TOKENS of THE TEXT one by one, up to the first fault. */
+    private static final class Reader {
+        private final Text text;
+        private int at;
+        private int token;
+        private int fault;
+
+        Reader(Text text) {
+            this.text = text;
+            at = 0;
+            token = END;
+            fault = NO_FAULT;
         }
 
         boolean isFaulty() {
@@ -773,71 +844,33 @@ public final class SayingsMerged {
             return first == '0' || first == '1' || isLetter(first);
         }
 
-        private static boolean isLetter(int t) {
-            return t >= 'a' && t < 'a' + LETTERS;
-        }
-
         private void expect(int due) {
             if (isFaulty() || token != due) {
                 fail();
-            } else if (due != END) {
+            } else {
                 advance();
             }
         }
 
         /** The first fault stays. */
         private void fail() {
-            if (!isFaulty()) {
-                fault = place;
+            if (fault == NO_FAULT) {
+                fault = text.places[at];
             }
         }
 
         private void begin() {
-            next = 0;
+            text.findTokens();
+            at = 0;
+            token = text.tokens[0];
             fault = NO_FAULT;
-            advance();
         }
 
         private void advance() {
-            while (next < length && bytes[next] == ' ') {
-                next++;
+            if (token != END && at < MAX_BYTES) {
+                at++;
+                token = text.tokens[at];
             }
-            place = next;
-            if (next >= length) {
-                token = END;
-            } else if (isSmall(bytes[next])) {
-                token = readWord();
-            } else {
-                token = isSign(bytes[next]) ? bytes[next] : NO_TOKEN;
-                next++;
-            }
-        }
-
-        private int readWord() {
-            while (next < length && isSmall(bytes[next])) {
-                next++;
-            }
-            int size = next - place;
-            if (size == 1 && isLetter(bytes[place])) {
-                return bytes[place];
-            }
-            if (size == 3 && isWord('l', 'a', 'w')) {
-                return LAW;
-            }
-            return size == 3 && isWord('s', 'a', 'y') ? SAY : NO_TOKEN;
-        }
-
-        private boolean isWord(int first, int second, int third) {
-            return bytes[place] == first && bytes[place + 1] == second && bytes[place + 2] == third;
-        }
-
-        private static boolean isSmall(int b) {
-            return b >= 'a' && b <= 'z';
-        }
-
-        private static boolean isSign(int b) {
-            return (b >= '0' && b <= '9')
-                || b == ';' || b == '|' || b == '&' || b == '!' || b == '(' || b == ')';
         }
     }
 }

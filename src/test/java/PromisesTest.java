@@ -173,6 +173,22 @@ public final class PromisesTest {
         due("tell of blanks", x.tell(), 0);
         due("no sayer is left", x.count(1), 0);
         due("nobody merges to all", x.merged(2), -1);
+        tellFewerAfterMany();
+    }
+
+    private static void tellFewerAfterMany() {
+        SayingsMerged x = Check.told("law a;law b;law c;say 9 1;say 9 !a;say 9 0;say 9 1;say 9 1;say 9 1;say 9 1;");
+        Check.typeAll(x, "say 2 a;say 3 b;");
+        due("tell fewer", x.tell(), 2);
+        due("THERE of no law", x.count(4), 64);
+        due("weights of two", x.count(3), 5);
+        due("free of two", x.free(), 3);
+        due("greatest of two", x.sets(1, 0), 3);
+        due("lone of two", x.worth(2, 0), 16);
+        due("sum of two", x.value(0, 0), 5);
+        due("share of two", x.share(1, 1), 1);
+        due("no third one", x.worlds(1, 2), 0);
+        due("a set with a third one", x.quarrels(4), BAD);
     }
 
     private static void promise04TellWithFault() {
@@ -193,6 +209,16 @@ public final class PromisesTest {
         dueFault("law a&|b;", 6);
         dueFault("law a b;", 6);
         dueFault("law ab;", 4);
+        dueFault("law az;", 4);
+        dueFault("law a{;", 5);
+        dueFault("law a`;", 5);
+        dueFault("lay a;", 0);
+        dueFault("lew a;", 0);
+        dueFault("saw a;", 0);
+        dueFault("sax 1 a;", 0);
+        dueFault("sey 1 a;", 0);
+        dueFault("say 1 say;", 6);
+        dueFault("says 1 a;", 0);
         dueFault("law g;", 4);
         dueFault("law A;", 4);
         dueFault("law a#;", 5);
@@ -267,6 +293,12 @@ public final class PromisesTest {
         dueQuestionFault("ab", 0);
         dueQuestionFault("a|h|#", 2);
         dueQuestionFault("a !", 2);
+        // Each of the 300 bytes a TOKEN.
+        SayingsMerged y = new SayingsMerged();
+        Check.ask(y, "!a|" + "b|".repeat(148) + "b");
+        due("a question of 300 TOKENS", y.worlds(2, 0), ~A | B);
+        dueQuestionFault("a|".repeat(150), 300);
+        dueQuestionFault("(a)&".repeat(74) + "(a))", 299);
     }
 
     private static void promise06Worlds() {
@@ -430,6 +462,22 @@ public final class PromisesTest {
         due("by rows", x.merged(2), Check.set(1));
         x.measure(1);
         due("by rows, measure 1", x.merged(2), Check.set(63));
+        // Rows 280 0 0 and 279 279 0.
+        SayingsMerged wide = Check.told("law !f&(a&b&c&d&e|!a&!b&!c&!d&!e);say 8 a&b&c&d;say 9 !a&!b&!c&!e;say 9 !a&!b&!c&!e;");
+        int[] costs = {9, 9, 9, 8, 4};
+        for (int letter = 0; letter < 5; letter++) {
+            wide.cost(letter, costs[letter]);
+        }
+        due("wide by rows", wide.merged(2), Check.set(31));
+        due("wide by sums", wide.merged(0), Check.set(0));
+        // Rows that differ in the seventh alone.
+        SayingsMerged last = Check.told("law !b&!c&!d&!e&!f;say 1 b;say 1 b;say 1 b;say 1 b;say 1 b;say 1 b;say 1 a;");
+        due("the last of seven", last.merged(2), Check.set(1));
+        due("not by the worst", last.merged(1), Check.set(0, 1));
+        // BURDENS 1 and 3 against 4 and 0: the greater one comes later.
+        SayingsMerged later = Check.told("law !b&!c&!d&!e&!f;say 1 !a&b;say 1 a;");
+        later.cost(0, 3);
+        due("the greater one later", later.merged(2), Check.set(0));
     }
 
     private static void promise12Value() {
@@ -510,6 +558,8 @@ public final class PromisesTest {
         due("along, from worlds not THERE", y.changed(0, 1), Check.set(1, 3));
         Check.ask(y, "!b");
         due("let go, from worlds not THERE", y.changed(0, 2), Check.set(3));
+        SayingsMerged first = Check.told("law a&!b;say 1 !a&!b&!c&!d&!e&!f;");
+        due("along, from the first world alone", first.changed(0, 1), Check.set(1));
         SayingsMerged z = Check.told("law 0;say 1 a;");
         for (int how = 0; how < 3; how++) {
             due("no world THERE", z.changed(0, how), 0);

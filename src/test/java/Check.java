@@ -13,6 +13,18 @@ final class Check {
         }
     }
 
+    /** Two rows of answers that must be the same; only the first difference is told. */
+    void dueRow(String of, long[] got, long[] want) {
+        due("how many answers " + of, got.length, want.length);
+        for (int k = 0; k < Math.min(got.length, want.length); k++) {
+            if (got[k] != want[k]) {
+                due("answer " + k + " " + of, got[k], want[k]);
+                return;
+            }
+        }
+        asked += want.length;
+    }
+
     boolean hasWrong() {
         return wrong != 0;
     }
